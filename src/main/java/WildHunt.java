@@ -42,6 +42,10 @@ public final class WildHunt {
     private static final int CHECK_FACTOR = 3;
     private static final int CHECK_MODULUS = 251;
 
+    private static final long DRAW_FACTOR = 1103515245L;
+    private static final long DRAW_MORE = 12345L;
+    private static final long DRAW_MODULUS = 2147483648L;
+
     private static final int NO_SUCH_TEXT = 1;
     private static final int NO_SUCH_NUMBER = 2;
     private static final int NAME_TWICE = 3;
@@ -137,7 +141,6 @@ public final class WildHunt {
     private final Reader reader;
     private final LandReader landReader;
     private final Question question;
-    private final Machine machine;
     private final Ride tonight;
     private final Ride trial;
     private final Host host;
@@ -160,7 +163,7 @@ public final class WildHunt {
         Phrases phrases = new Phrases(reader);
         landReader = new LandReader(reader, phrases);
         question = new Question(reader, phrases);
-        machine = new Machine();
+        Machine machine = new Machine();
         ground = new Land(0, 0, 0);
         tonight = new Ride(machine, ground);
         trial = new Ride(machine, ground);
@@ -506,7 +509,7 @@ public final class WildHunt {
         host.start();
         int storms = 0;
         for (int k = 0; k < n; k++) {
-            if (draw(100) < ground.storm) {
+            if (drawOfHundred() < ground.storm) {
                 storms++;
                 host.passStorm(state);
             } else {
@@ -682,9 +685,9 @@ public final class WildHunt {
         return most;
     }
 
-    private int draw(int m) {
-        draws = (int) (1103515245L * draws + 12345L & 0x7fffffffL);
-        return draws / 64 % m;
+    private int drawOfHundred() {
+        draws = (int) ((DRAW_FACTOR * draws + DRAW_MORE) % DRAW_MODULUS);
+        return draws / 64 % 100;
     }
 
     private void putPair(int k, int number) {
