@@ -881,10 +881,6 @@ public final class WildHunt {
             return kind == SIGN && value == sign;
         }
 
-        int sign() {
-            return kind == SIGN ? value : NONE;
-        }
-
         boolean isNumber() {
             return kind == DIGITS;
         }
