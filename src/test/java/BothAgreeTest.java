@@ -4,6 +4,14 @@ import java.util.Random;
 public final class BothAgreeTest {
     private static final int RUNS = 1500;
     private static final int CALLS = 500;
+    /** Found by search: five BELLS at REST, four in a PEAL. */
+    private static final String[] LOUD = {
+        "land 7 by 7 hunt 4 4;bell a at 6 2 rope 2;bell b at 0 1 rope 1;bell c at 6 4 rope 2;bell d at 5 6 rope 0;bell e at 2 4 rope 1;"
+            + "walker f from 4 2 to 3 5 does 2;walker g from 4 1 to 6 4 does 2;walker h from 4 1 to 6 1 does 2;walker i from 1 1 to 6 3 does 2;"
+            + "walker j from 5 6 to 4 0 does 2;harm 9;rides 1+hour;",
+        "land 7 by 7 hunt 1 2;bell a at 3 3 rope 1;bell b at 4 2 rope 1;bell c at 5 1 rope 1;bell d at 5 2 rope 1;bell e at 0 1 rope 1;"
+            + "walker f from 1 4 to 6 2 does 2;walker g from 5 0 to 3 1 does 2;walker h from 4 0 to 1 3 does 2;walker i from 3 4 to 0 2 does 2;"
+            + "walker j from 1 4 to 6 0 does 2;walker k from 4 2 to 3 3 does 2;harm 9;rides 1+hour;"};
     private final Random random;
     private final WildHunt hunt = new WildHunt();
     private final Oracle oracle = new Oracle();
@@ -18,9 +26,13 @@ public final class BothAgreeTest {
     public static void main(String[] args) {
         int bad = 0;
         int runs = args.length > 0 ? Integer.parseInt(args[0]) : RUNS;
-        for (int run = 0; run < runs && bad < 5; run++) {
+        for (int run = -LOUD.length; run < runs && bad < 5; run++) {
             BothAgreeTest test = new BothAgreeTest(run);
-            test.run();
+            if (run < 0) {
+                test.runOver(LOUD[-1 - run]);
+            } else {
+                test.run();
+            }
             if (test.wrong) {
                 bad++;
                 System.out.println("run " + run + ":\n" + test.log);
@@ -56,6 +68,16 @@ public final class BothAgreeTest {
 
     private void same(String call, boolean got, boolean want) {
         same(call, got ? 1 : 0, want ? 1 : 0);
+    }
+
+    private void runOver(String text) {
+        put(text);
+        same("land", hunt.land(), oracle.land());
+        for (int night = 0; night < 3; night++) {
+            same("peal", hunt.peal(), oracle.peal());
+            same("rest", hunt.rest(), oracle.rest());
+            same("nights", hunt.nights(1), oracle.nights(1));
+        }
     }
 
     private void run() {

@@ -105,6 +105,14 @@ public final class PromisesTest {
         due("feed behind", x.feed(0x3b202020, 0x20202020, 0x20202020, 0x20202020, 0x20202020), 40);
         due("land", x.land(), 1);
         due("row of begin", x.hunt(0, 1), 1);
+        WildHunt y = new WildHunt();
+        for (int k = 0; k < 80; k++) {
+            y.feed(0, 0, 0, 0, 0);
+        }
+        y.end(1581);
+        due("1601 would be", y.feed(0, 0, 0, 0, 0), NONE);
+        y.end(1580);
+        due("1600", y.feed(0, 0, 0, 0, 0), 1600);
         x.feed(0x80818283, -1, 0, 0, 0);
         due("bytes above 127", x.ask(), NOTHING);
         due("fault", x.fault(1), 0);
