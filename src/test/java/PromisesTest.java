@@ -197,15 +197,8 @@ public final class PromisesTest {
         due("walkers", x.has(4), 6);
     }
 
-    /** The FAULT's place is marked by ^ in the text. */
     private static void faulty(int kind, String marked) {
-        WildHunt x = Hand.over(SMALL + "year 2;");
-        int place = marked.indexOf('^');
-        String text = marked.replace("^", "");
-        due("land() of " + marked, Hand.land(x, text), NONE);
-        due("fault(0) of " + marked, x.fault(0), kind);
-        due("fault(1) of " + marked, x.fault(1), place);
-        due("columns stay", x.has(0), 2);
+        Hand.faulty(kind, marked);
     }
 
     private static void faultsOfLand() {
@@ -335,11 +328,7 @@ public final class PromisesTest {
     }
 
     private static void asksWrong(int kind, String marked) {
-        WildHunt x = Hand.over(SMALL);
-        due("ask() of " + marked, Hand.ask(x, marked.replace("^", "")), NOTHING);
-        due("fault(0) of " + marked, x.fault(0), kind);
-        due("fault(1) of " + marked, x.fault(1), marked.indexOf('^'));
-        due("tape goes", x.feed(0, 0, 0, 0, 0), 20);
+        Hand.asksWrong(kind, marked);
     }
 
     private static void faultsOfQuestions() {
