@@ -34,16 +34,19 @@ public final class BoundsOfCallsTest {
         faultOthers();
         hasOthers();
         hasAtTheMost();
+        hasGoneForOne();
         letterBehindTheName();
         letterNoneSuch();
         cellNoneSuch();
         bellNoneSuch();
+        bellIsRung();
         walkerNoneSuch();
         toldNoneSuch();
         huntNoneSuch();
         meetsNoneSuch();
         safeNoneSuch();
         laterCanNotBe();
+        laterIsAsNights();
         chapelCanNotBe();
         firstNoneSuch();
         firstWithin60();
@@ -393,6 +396,19 @@ public final class BoundsOfCallsTest {
         }
     }
 
+    private static void hasGoneForOne() {
+        Hand.at("promise 6: 7 WALKERS who are GONE");
+        WildHunt x = Hand.over(FULL);
+        due("none", x.has(7), 0);
+        on(x, 0, 0, 0, 2, 0, 0, 0, 0, 1, 1, 0, 0, 0, 0, 0);
+        due("for one NIGHT more", x.has(7), 1);
+        due("AHEAD", x.later(0, 1), 1);
+        on(x, 0, 0, 0, 2, 0, 0, 0, 0, 1, 1, 0, 0, 0, 0, 99);
+        due("both", x.has(7), 2);
+        x.nights(1);
+        due("one is back", x.has(7), 1);
+    }
+
     private static void letterBehindTheName() {
         Hand.at("promise 7: letter k (0 .. 5); 0 behind it");
         WildHunt x = Hand.over(TWO + "bell a at 0 0 rope 1;bell zyxwvu at 0 0 rope 1;walker abcde from 0 0 to 0 0 does 0;");
@@ -449,6 +465,24 @@ public final class BoundsOfCallsTest {
         }
         Hand.within("what", 0, 4, k -> x.bell(1, k));
         due("no BELLS", Hand.over(TWO).bell(0, 0), NONE);
+    }
+
+    private static void bellIsRung() {
+        Hand.at("promise 9: 3 whether it is RUNG");
+        StringBuilder text = new StringBuilder(TWO);
+        for (int k = 0; k < 5; k++) {
+            text.append("bell b").append((char) ('a' + k)).append(" at 0 0 rope 1;");
+        }
+        WildHunt x = Hand.over(text.toString());
+        for (int rung = 0; rung < 5; rung++) {
+            due("ring", x.ring(rung, 1), true);
+            for (int k = 0; k < 5; k++) {
+                due("BELL " + k, x.bell(k, 3), k <= rung ? 1 : 0);
+            }
+        }
+        due("no more", x.ring(2, 0), true);
+        due("no more", x.bell(2, 3), 0);
+        due("the one behind it", x.bell(3, 3), 1);
     }
 
     private static void walkerNoneSuch() {
@@ -518,6 +552,37 @@ public final class BoundsOfCallsTest {
         due("gone", x.later(0, 1), 1);
         due("purses", x.later(0, 2), 21);
         due("kept", x.later(0, 3), 0);
+    }
+
+    private static void laterIsAsNights() {
+        Hand.at("promise 17: 0 how many meetings in them, 1 WALKERS who are GONE, 2 what is in all purses, 3 KEPT in them");
+        for (int n : new int[] {1, 2, 3, 4, 59, 60}) {
+            WildHunt x = midway();
+            int meetings = x.later(n, 0);
+            int gone = x.later(n, 1);
+            int purses = x.later(n, 2);
+            int kept = x.later(n, 3);
+            // Each NIGHT by itself, for the rows that are TOLD.
+            int all = 0;
+            int keptAll = 0;
+            for (int night = 0; night < n; night++) {
+                int before = x.has(9);
+                int met = x.nights(1);
+                all += met;
+                for (int k = 0; k < met; k++) {
+                    keptAll += x.told(x.has(9) - 1 - k, 3);
+                }
+                due("rows TOLD", x.has(9), Math.min(40, before + met));
+            }
+            due("meetings of " + n, meetings, all);
+            due("gone behind " + n, gone, x.has(7));
+            due("purses behind " + n, purses, x.has(8));
+            due("kept in " + n, kept, keptAll);
+        }
+        // b was KEPT in NIGHT 0 for 3 NIGHTS: he is met again in NIGHT 4, the third one from NIGHT 2 on.
+        WildHunt y = midway();
+        due("kept in two", y.later(2, 3), 0);
+        due("kept in three", y.later(3, 3), 1);
     }
 
     private static void chapelCanNotBe() {

@@ -16,6 +16,7 @@ public final class BoundsOfNightTest {
         modulo();
         withoutRides();
         hourByHour();
+        whereItIs();
         lastHour();
         leavesTheLand();
         clockTurnsOver();
@@ -33,6 +34,7 @@ public final class BoundsOfNightTest {
         purse();
         paysBelowZero();
         paysWithout();
+        paysByNightAndManner();
         answersIsKept();
         keepsWithout();
         keepsByPurseAhead();
@@ -53,13 +55,16 @@ public final class BoundsOfNightTest {
         pealOfNone();
         pealFewestThenLeast();
         pealOfThoseWhoWalk();
+        pealOfFive();
         losesWithinOne();
         losesInEachHour();
         losesItsRope();
         restEqual();
         restFewestThenLeast();
+        restOfFive();
         restAlways();
         chapelMoreRowByRow();
+        chapelMoreFirstCell();
         chapelMoreFewest();
         chapelMoreIfFewer();
         chapelMoreNotWhereItBegins();
@@ -131,6 +136,13 @@ public final class BoundsOfNightTest {
     private static void hourByHour() {
         Hand.at("by the HOUR it is");
         path("land 7 by 7 hunt 3 3;rides hour;", "33 33 32 41 51 62 63 54 44 33 33 32");
+    }
+
+    private static void whereItIs() {
+        Hand.at("column; row: where it is");
+        path("land 7 by 7 hunt 0 0;rides 3+column/6*2;", "00 10 20 30 40 50 60 61 62 63 64 65");
+        path("land 7 by 7 hunt 0 0;rides 5-row/6*2;", "00 01 02 03 04 05 06 16 26 36 46 56");
+        path("land 7 by 7 hunt 6 6;rides 7+(1-min(1,column))*3;", "66 56 46 36 26 16 06 05 04 03 02 01");
     }
 
     private static void lastHour() {
@@ -374,6 +386,30 @@ public final class BoundsOfNightTest {
         set(x, 0, 0, 2, 0, 77, 0);
         x.nights(3);
         due("what he had", x.walker(0, 6), 77);
+    }
+
+    private static void paysByNightAndManner() {
+        Hand.at("the HOUR, the NIGHT; his MANNER, how often he MET it ahead, his purse");
+        WildHunt x = Hand.over(TWO + "walker w from 0 0 to 0 0 does 2;pays night;");
+        x.nights(1);
+        due("NIGHT 0", x.walker(0, 6), 0);
+        set(x, 998, 0, 2, 0, 0, 0);
+        x.nights(1);
+        due("NIGHT 998", x.walker(0, 6), 998);
+        WildHunt y = Hand.over(TWO + "rides hour/10*3;walker w from 1 0 to 1 0 does 3;pays manner*1000+hour*10+met-9998;");
+        set(y, 0, 0, 3, 9999, 0, 0);
+        y.nights(1);
+        due("MANNER 3, HOUR 11, MET 9999", y.walker(0, 6), 3111);
+        WildHunt z = Hand.over(TWO + "walker w from 0 0 to 0 0 does 3;keeps night=998 and manner=3 and hour=0 and met=9999 and purse=9999;");
+        set(z, 998, 0, 3, 9999, 9999, 0);
+        z.nights(1);
+        due("KEPT by all of them", z.told(0, 3), 1);
+        set(z, 998, 0, 2, 9999, 9999, 0);
+        z.nights(1);
+        due("another MANNER", z.told(0, 3), 0);
+        set(z, 997, 0, 3, 9999, 9999, 0);
+        z.nights(1);
+        due("another NIGHT", z.told(0, 3), 0);
     }
 
     private static void answersIsKept() {
@@ -727,6 +763,30 @@ public final class BoundsOfNightTest {
         due("RUNG alone", y.peal(), 0);
     }
 
+    /** Five BELLS, of which a PEAL as well as REST needs all. */
+    private static final String FIVE = "land 7 by 7 hunt 4 0;bell a at 5 2 rope 1;bell b at 4 5 rope 1;bell c at 1 2 rope 1;bell d at 1 5 rope 1;"
+        + "bell e at 6 0 rope 1;walker p from 6 4 to 6 4 does 2;walker q from 5 0 to 5 0 does 2;walker r from 2 4 to 2 4 does 2;"
+        + "walker s from 2 3 to 2 3 does 2;";
+
+    private static void ringAlone(WildHunt x, int bells, int count) {
+        for (int k = 0; k < count; k++) {
+            if (x.bell(k, 3) != (bells >> k & 1)) {
+                due("ring", x.ring(k, bells >> k & 1), true);
+            }
+        }
+    }
+
+    private static void pealOfFive() {
+        Hand.at("a PEAL of all BELLS there can be");
+        WildHunt x = Hand.over(FIVE);
+        due("all five", x.peal(), 31);
+        for (int bells = 0; bells < 32; bells++) {
+            ringAlone(x, bells, 5);
+            boolean met = x.meets(0) != NONE || x.meets(1) != NONE || x.meets(2) != NONE || x.meets(3) != NONE;
+            due("by " + bells, met, bells != 31);
+        }
+    }
+
     // ---- what parishes lose, REST
 
     private static void losesWithinOne() {
@@ -793,6 +853,26 @@ public final class BoundsOfNightTest {
         due("whatever is RUNG now", x.rest(), 1);
     }
 
+    private static void restOfFive() {
+        Hand.at("REST of all BELLS there can be");
+        due("all five", Hand.over(FIVE).rest(), 31);
+        int[][] losses = new int[32][5];
+        for (int bells = 0; bells < 32; bells++) {
+            WildHunt x = Hand.over(FIVE);
+            ringAlone(x, bells, 5);
+            for (int k = 0; k < 5; k++) {
+                losses[bells][k] = x.bell(k, 4);
+            }
+        }
+        for (int bells = 0; bells < 32; bells++) {
+            boolean rests = true;
+            for (int k = 0; k < 5; k++) {
+                rests &= losses[bells][k] <= losses[bells ^ 1 << k][k];
+            }
+            due("at REST by " + bells, rests, bells == 31);
+        }
+    }
+
     private static void restAlways() {
         Hand.at("NONE when no set is, or without a land");
         due("without a land", new WildHunt().rest(), NONE);
@@ -821,6 +901,19 @@ public final class BoundsOfNightTest {
         due("row", y.chapel(1, 1), 1);
     }
 
+    private static void chapelMoreFirstCell() {
+        Hand.at("the first, row by row: 0 0, and the last one");
+        // 1 1 to 0 0 by WAY 8; with a CHAPEL there it goes up to 1 0.
+        WildHunt x = Hand.over("land 2 by 2 hunt 1 1;rides 8*(1-min(1,hour));walker w from 0 0 to 0 0 does 2;");
+        due("column", x.chapel(1, 0), 0);
+        due("row", x.chapel(1, 1), 0);
+        due("fewer", x.chapel(1, 2), 1);
+        WildHunt y = Hand.over("land 7 by 7 hunt 5 5;rides 4*(1-min(1,hour));walker w from 6 6 to 6 6 does 2;");
+        due("column", y.chapel(1, 0), 6);
+        due("row", y.chapel(1, 1), 6);
+        due("fewer", y.chapel(1, 2), 1);
+    }
+
     private static void chapelMoreFewest() {
         Hand.at("by which fewest meetings are in n NIGHTS AHEAD");
         // 1 1 turns it to the third WALKER (one meeting instead of two), 2 1 keeps it from all.
@@ -829,6 +922,12 @@ public final class BoundsOfNightTest {
         due("row", x.chapel(1, 1), 1);
         due("fewer", x.chapel(1, 2), 2);
         due("fewer in 20", x.chapel(20, 2), 40);
+        // One more where it begins is met whatever stands: three without, one with it.
+        WildHunt y = Hand.over(WIDE + "walker a from 2 1 to 2 1 does 2;walker b from 4 1 to 4 1 does 2;walker c from 0 1 to 0 1 does 2;");
+        due("without", y.later(1, 0), 3);
+        due("column", y.chapel(1, 0), 1);
+        due("two fewer", y.chapel(1, 2), 2);
+        due("two fewer each NIGHT", y.chapel(20, 2), 40);
     }
 
     private static void chapelMoreIfFewer() {

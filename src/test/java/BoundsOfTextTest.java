@@ -53,11 +53,16 @@ public final class BoundsOfTextTest {
         divisions();
         millions();
         millionsWhereTheyAreUsed();
+        comparisons();
+        bothAndEither();
+        longestTexts();
+        deepestSums();
         questionWords();
         questionParts();
         behindTheQuestion();
         nearOpen();
         nearHours();
+        valuesAtTheMost();
         withoutWalkers();
         Hand.end();
     }
@@ -822,6 +827,87 @@ public final class BoundsOfTextTest {
         due("none above", free.walker(0, 7), 0);
     }
 
+    private static void holds(String test, boolean want) {
+        due("often " + test, Hand.ask(Hand.over(ONE_WALKER), "often " + test), want ? 1 : 0);
+    }
+
+    private static void comparisons() {
+        Hand.at("SUM SIGN SUM, SIGN < or > or =");
+        int[][] pairs = {{0, 0}, {1, 1}, {1, 2}, {2, 1}, {0, 9999}, {9999, 0}, {9999, 9999}, {-1, 0}, {0, -1}, {-1, -1}, {-2, -1}, {-1, -2}, {-1, 1}};
+        for (int[] pair : pairs) {
+            String left = signed(pair[0]);
+            String right = signed(pair[1]);
+            holds(left + "<" + right, pair[0] < pair[1]);
+            holds(left + ">" + right, pair[0] > pair[1]);
+            holds(left + "=" + right, pair[0] == pair[1]);
+            holds("not " + left + "=" + right, pair[0] != pair[1]);
+        }
+    }
+
+    private static void bothAndEither() {
+        Hand.at("TEST: BOTH { or BOTH }. BOTH: FACT { and FACT }. FACT: not FACT; [ TEST ]; all");
+        String[] sides = {"not all", "all"};
+        for (int a = 0; a < 2; a++) {
+            for (int b = 0; b < 2; b++) {
+                holds(sides[a] + " and " + sides[b], a == 1 && b == 1);
+                holds(sides[a] + " or " + sides[b], a == 1 || b == 1);
+                holds("not [" + sides[a] + " and " + sides[b] + "]", a == 0 || b == 0);
+                for (int c = 0; c < 2; c++) {
+                    holds(sides[a] + " or " + sides[b] + " and " + sides[c], a == 1 || b == 1 && c == 1);
+                    holds(sides[a] + " and " + sides[b] + " or " + sides[c], a == 1 && b == 1 || c == 1);
+                    holds("[" + sides[a] + " or " + sides[b] + "] and " + sides[c], (a == 1 || b == 1) && c == 1);
+                    holds(sides[a] + " or " + sides[b] + " or " + sides[c], a + b + c > 0);
+                    holds(sides[a] + " and " + sides[b] + " and " + sides[c], a + b + c == 3);
+                }
+            }
+        }
+        holds("not not all", true);
+        holds("not not not all", false);
+        holds("not not not not not not all", true);
+    }
+
+    private static void longestTexts() {
+        Hand.at("a text of 1600 bytes");
+        // 7 bytes and 796 times two more, and a blank.
+        String question = "total 1" + "+1".repeat(796) + " ";
+        due("bytes", question.length(), 1600);
+        WildHunt x = Hand.over(ONE_WALKER);
+        due("797 summands", Hand.ask(x, question), 797);
+        due("once more", Hand.ask(x, question), 797);
+        due("and once more", Hand.ask(x, question.replace('+', '-')), -795);
+        // 786 summands are 3 modulo 9, one less is 2.
+        String land = "land 2 by 2 hunt 0 0;rides 1" + "+1".repeat(785) + "; ";
+        due("bytes", land.length(), 1600);
+        WildHunt y = new WildHunt();
+        for (int turn = 0; turn < 3; turn++) {
+            due("land", Hand.land(y, land), 2);
+            due("way 3, column", y.hunt(1, 0), 1);
+            due("way 3, row", y.hunt(1, 1), 0);
+        }
+        String nots = "often " + "not all or ".repeat(144) + "all";
+        due("bytes", nots.length(), 1593);
+        due("144 nots, then all", Hand.ask(x, nots), 1);
+        due("ends too soon", Hand.ask(x, "total 1" + "+1".repeat(796) + "+"), WildHunt.NOTHING);
+        due("at its length", x.fault(1), 1600);
+    }
+
+    private static String deep(int depth) {
+        return depth == 0 ? "1" : "1+1*min(1," + deep(depth - 1) + ")";
+    }
+
+    private static void deepestSums() {
+        Hand.at("six open at once, with all that waits for them");
+        due("six min", worth(deep(6)), 2);
+        holds("not all or all and 1<" + deep(6), true);
+        holds("not all or all and 2<" + deep(6), false);
+        String deepTest = "not all or all and [not all or all and [not all or all and [not all or all and 1<" + deep(3) + "]]]";
+        holds(deepTest, true);
+        holds(deepTest.replace("1<1", "2<1"), false);
+        WildHunt x = Hand.over("land 3 by 3 hunt 1 1;rides " + deep(6) + ";");
+        due("way 2, column", x.hunt(1, 0), 2);
+        due("way 2, row", x.hunt(1, 1), 0);
+    }
+
     // ---- questions
 
     private static void questionWords() {
@@ -920,6 +1006,42 @@ public final class BoundsOfTextTest {
         due("near -10 to the 6", Hand.ask(x, "total near (0-9999*9999)"), 0);
         due("near 10 to the 6", Hand.ask(x, "total near (9999*9999)"), 0);
         due("near the HOUR of no meeting", Hand.ask(x, "total near hour"), 0);
+    }
+
+    private static void valuesAtTheMost() {
+        Hand.at("his number, home, MANNER, how often he MET it, purse, for how many NIGHTS more he is GONE, the HOUR, the NIGHT");
+        StringBuilder text = new StringBuilder("land 7 by 7 hunt 0 0;rides 0;");
+        int[] image = new int[3 + 36];
+        image[0] = 3;
+        image[1] = 231;
+        for (int k = 0; k < 6; k++) {
+            text.append("walker w").append((char) ('a' + k)).append(" from ").append(k == 5 ? "6 5" : "0 0").append(" to 0 0 does 2;");
+        }
+        int last = 3 + 30;
+        image[last] = 3;
+        image[last + 1] = 39;
+        image[last + 2] = 15;
+        image[last + 3] = 39;
+        image[last + 4] = 14;
+        image[last + 5] = 99;
+        WildHunt x = Hand.over(text.toString());
+        Hand.put(x, Hand.checked(image));
+        Hand.due("on", x.on(), true);
+        String[] words = {"number", "column", "row", "manner", "met", "purse", "gone", "night"};
+        int[] greatest = {5, 6, 5, 3, 9999, 9998, 99, 999};
+        int[] all = {15, 6, 5, 3, 9999, 9998, 99, 5994};
+        for (int k = 0; k < words.length; k++) {
+            due("most " + words[k], Hand.ask(x, "most " + words[k]), greatest[k]);
+            due("total " + words[k], Hand.ask(x, "total " + words[k]), all[k]);
+            due("least " + words[k], Hand.ask(x, "least " + words[k]), words[k].equals("night") ? 999 : 0);
+            due("last of the most", Hand.ask(x, "last " + words[k] + "=" + greatest[k]), 5);
+        }
+        // Five lie down, the sixth is GONE: none would MEET it. Then one helps.
+        due("hour", Hand.ask(x, "total hour"), 72);
+        x.does(2, 2);
+        due("HOUR 0", Hand.ask(x, "least hour"), 0);
+        due("who", Hand.ask(x, "first hour=0"), 2);
+        due("12 if he would not", Hand.ask(x, "often hour=12"), 5);
     }
 
     private static void withoutWalkers() {
