@@ -248,12 +248,26 @@ public final class BoundsOfCallsTest {
             due("land of " + n, x.land(), n == 21 ? 1 : NONE);
             due("fault of " + n, x.fault(1), n == 20 ? 20 : n == 21 ? NONE : 21);
         }
+        // A word, a number and a NAME end where the tape ends, whatever had stood behind it.
+        WildHunt y = Hand.over(TWO + "walker a from 0 0 to 0 0 does 2;");
+        due("12 cut to 1", askCut(y, "total 12", 7), 1);
+        due("123456 cut to 1234", askCut(y, "total 123456", 10), 1234);
+        due("allx cut to all", askCut(y, "often allx", 9), 1);
+        due("number cut to numbe", askCut(y, "total number", 11), NOTHING);
+        due("at its first byte", y.fault(1), 6);
+        due("hourly cut to hour", askCut(y, "total hourly", 10), 0);
         // Bytes behind the end do not come back.
         x.feed(0x6c616e64, 0x20322062, 0x79203220, 0x68756e74, 0x20302031);
         x.end(4);
         x.feed(BLANKS, BLANKS, BLANKS, BLANKS, BLANKS);
         due("land", x.land(), NONE);
         due("at its length", x.fault(1), 24);
+    }
+
+    private static long askCut(WildHunt x, String text, int n) {
+        Hand.put(x, text);
+        due("end " + n, x.end(n), true);
+        return x.ask();
     }
 
     // ---- the LAND

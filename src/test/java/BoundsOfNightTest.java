@@ -731,6 +731,12 @@ public final class BoundsOfNightTest {
             five.append("bell ").append(c).append(" at 1 1 rope 1;");
         }
         due("five in vain", Hand.over(five.toString()).peal(), NONE);
+        StringBuilder six = new StringBuilder("land 3 by 3 hunt 0 0;rides 0;");
+        for (char c = 'a'; c <= 'f'; c++) {
+            six.append("walker ").append(c).append(" from 1 1 to 2 2 does 2;");
+        }
+        due("six, of whom none is met", Hand.over(six.toString()).peal(), 0);
+        due("six, of whom the last is met", Hand.over(six.toString().replace("walker f from 1 1", "walker f from 0 0")).peal(), NONE);
     }
 
     private static void pealFewestThenLeast() {
@@ -1039,6 +1045,12 @@ public final class BoundsOfNightTest {
         see(x, 0, 3, 3, 0, 4, 4);
         due("without a CELL", x.tells(0), NONE);
         due("without a CELL", x.tells(1), NONE);
+        // From no CELL of the LAND it comes to 0 1 in HOUR 1; from one below it, if there were one, it would.
+        WildHunt y = Hand.over("land 3 by 2 hunt 0 0;");
+        see(y, 1, 0, 1);
+        due("none leads there", y.began(0), 0);
+        due("none leads there", y.tells(0), NONE);
+        due("none leads there", y.tells(1), NONE);
         due("without a land", new WildHunt().tells(0), NONE);
         due("without a land", new WildHunt().tells(1), NONE);
     }

@@ -875,6 +875,17 @@ public final class BoundsOfTextTest {
         due("797 summands", Hand.ask(x, question), 797);
         due("once more", Hand.ask(x, question), 797);
         due("and once more", Hand.ask(x, question.replace('+', '-')), -795);
+        // Its last byte is a digit, a letter, a sign.
+        String digit = "total 11" + "+1".repeat(796);
+        due("bytes", digit.length(), 1600);
+        due("a digit", Hand.ask(x, digit), 807);
+        due("a letter", Hand.ask(x, " ".repeat(1591) + "often all"), 1);
+        due("a sign", Hand.ask(x, " ".repeat(1591) + "total (7)"), 7);
+        faulty(1, " ".repeat(1596) + "land^");
+        faulty(1, " ".repeat(1580) + "land 2 by 2 hunt 0 0^");
+        good(1, " ".repeat(1579) + "land 2 by 2 hunt 0 0;");
+        faulty(1, " ".repeat(1568) + TWO + "bell abcdef^");
+        faulty(1, " ".repeat(1567) + TWO + "bell abcdef^g");
         // 786 summands are 3 modulo 9, one less is 2.
         String land = "land 2 by 2 hunt 0 0;rides 1" + "+1".repeat(785) + "; ";
         due("bytes", land.length(), 1600);
@@ -1042,6 +1053,12 @@ public final class BoundsOfTextTest {
         due("HOUR 0", Hand.ask(x, "least hour"), 0);
         due("who", Hand.ask(x, "first hour=0"), 2);
         due("12 if he would not", Hand.ask(x, "often hour=12"), 5);
+        // The NIGHT, too, where nothing else asks for it.
+        WildHunt y = Hand.over(ONE_WALKER);
+        due("NIGHT 0", Hand.ask(y, "total night"), 0);
+        Hand.put(y, Hand.checked(3, 231, 0, 0, 0, 0, 0, 0, 0));
+        Hand.due("on", y.on(), true);
+        due("NIGHT 999", Hand.ask(y, "total night"), 999);
     }
 
     private static void withoutWalkers() {
