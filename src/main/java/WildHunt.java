@@ -23,6 +23,7 @@ public final class WildHunt {
     private static final int MOST_BYTES = 1600;
     private static final int FEED_BYTES = 20;
     private static final int MOST_LETTERS = 6;
+    private static final int LETTER_BITS = 5;
     private static final int MOST_DIGITS = 4;
     private static final int MOST_NUMBER = 9999;
     private static final int MOST_OPEN = 6;
@@ -791,19 +792,11 @@ public final class WildHunt {
 
         /** Six letters of five bits, the first one highest: one number is a whole word. */
         private static int shiftOf(int letter) {
-            return 5 * (MOST_LETTERS - 1 - letter);
+            return LETTER_BITS * (MOST_LETTERS - 1 - letter);
         }
 
         static int letterOf(int name, int k) {
-            return name >> shiftOf(k) & 31;
-        }
-
-        private static boolean isLetter(int sign) {
-            return sign >= 'a' && sign <= 'z';
-        }
-
-        private static boolean isDigit(int sign) {
-            return sign >= '0' && sign <= '9';
+            return name >> shiftOf(k) & (1 << LETTER_BITS) - 1;
         }
 
         void start() {
@@ -830,48 +823,40 @@ public final class WildHunt {
             return fault == 0 && kind != END;
         }
 
+        /** Calls nothing: it ends the longest chains of calls. */
         void advance() {
             boolean behindWord = kind == WORD || kind == DIGITS;
-            int k = to;
-            while (k < tape.size && (tape.bytes[k] == 10 || tape.bytes[k] == 32)) {
-                k++;
+            int behind = to;
+            from = to;
+            while (from < tape.size && (tape.bytes[from] == 10 || tape.bytes[from] == 32)) {
+                from++;
             }
-            boolean touches = behindWord && k == to;
-            from = k;
-            to = k;
-            int sign = tape.at(k);
-            if (sign == NONE) {
+            to = from;
+            if (from >= tape.size) {
                 kind = END;
-            } else if (touches && (isLetter(sign) || isDigit(sign))) {
-                kind = WRONG;
-            } else if (isLetter(sign)) {
-                scanWord();
-            } else if (isDigit(sign)) {
-                scanDigits();
-            } else {
-                kind = SIGN;
-                value = sign;
-                to = k + 1;
+                return;
             }
-        }
-
-        private void scanWord() {
-            kind = WORD;
-            value = 0;
-            int shift = 5 * MOST_LETTERS;
-            while (to < tape.size && tape.bytes[to] >= 'a' && tape.bytes[to] <= 'z') {
-                shift -= 5;
-                value |= shift >= 0 ? tape.bytes[to] - 'a' + 1 << shift : 0;
+            int first = tape.bytes[from];
+            kind = first >= 'a' && first <= 'z' ? WORD : first >= '0' && first <= '9' ? DIGITS : SIGN;
+            if (kind == SIGN) {
+                value = first;
                 to++;
+                return;
             }
-        }
-
-        private void scanDigits() {
-            kind = DIGITS;
+            if (behindWord && from == behind) {
+                kind = WRONG;
+                return;
+            }
             value = 0;
-            while (to < tape.size && tape.bytes[to] >= '0' && tape.bytes[to] <= '9') {
-                if (to - from < MOST_DIGITS) {
-                    value = value * 10 + tape.bytes[to] - '0';
+            int least = kind == WORD ? 'a' : '0';
+            int most = kind == WORD ? 'z' : '9';
+            while (to < tape.size && tape.bytes[to] >= least && tape.bytes[to] <= most) {
+                int sign = tape.bytes[to] - least;
+                int k = to - from;
+                if (kind == WORD && k < MOST_LETTERS) {
+                    value |= sign + 1 << LETTER_BITS * (MOST_LETTERS - 1 - k);
+                } else if (kind == DIGITS && k < MOST_DIGITS) {
+                    value = value * 10 + sign;
                 }
                 to++;
             }
@@ -904,7 +889,7 @@ public final class WildHunt {
             if (isSign(sign)) {
                 advance();
             } else {
-                failHere();
+                fail(NO_SUCH_TEXT, from);
             }
         }
 
@@ -912,13 +897,13 @@ public final class WildHunt {
             if (isWord(word)) {
                 advance();
             } else {
-                failHere();
+                fail(NO_SUCH_TEXT, from);
             }
         }
 
         int takeNumber(int least, int most) {
             if (kind != DIGITS) {
-                failHere();
+                fail(NO_SUCH_TEXT, from);
             } else if (to - from > MOST_DIGITS) {
                 fail(NO_SUCH_TEXT, from + MOST_DIGITS);
             } else if (value < least || value > most) {
@@ -934,7 +919,7 @@ public final class WildHunt {
         int takeName() {
             int word = word();
             if (kind != WORD || word != NONE && word < OWN_WORD_COUNT) {
-                failHere();
+                fail(NO_SUCH_TEXT, from);
             } else if (to - from > MOST_LETTERS) {
                 fail(NO_SUCH_TEXT, from + MOST_LETTERS);
             } else {
@@ -1038,20 +1023,26 @@ public final class WildHunt {
                 reader.advance();
                 put(PUSH, 1);
             } else {
-                comparison(open);
+                sum(open);
+                int step = comparisonStep();
+                if (step == NONE) {
+                    reader.failHere();
+                } else {
+                    reader.advance();
+                    sum(open);
+                    put(step, 0);
+                }
             }
         }
 
-        private void comparison(int open) {
-            sum(open);
-            int step = reader.isSign('<') ? BELOW : reader.isSign('>') ? ABOVE : SAME;
-            if (step != SAME || reader.isSign('=')) {
-                reader.advance();
-                sum(open);
-                put(step, 0);
-            } else {
-                reader.failHere();
+        private int comparisonStep() {
+            if (reader.isSign('<')) {
+                return BELOW;
             }
+            if (reader.isSign('>')) {
+                return ABOVE;
+            }
+            return reader.isSign('=') ? SAME : NONE;
         }
 
         private void sum(int open) {

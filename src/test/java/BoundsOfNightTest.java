@@ -29,6 +29,7 @@ public final class BoundsOfNightTest {
         walkerGoesNearer();
         untilHeIsThere();
         meetsFirstAndLastHour();
+        meetsOnFirstAndLastCell();
         liesDown();
         onceInANight();
         purse();
@@ -308,6 +309,24 @@ public final class BoundsOfNightTest {
         WildHunt x = Hand.over(TWO + "rides hour/10*3;walker w from 1 0 to 1 0 does 2;");
         due("meetings", x.nights(1), 1);
         due("told HOUR 11", x.told(0, 1), 11);
+    }
+
+    private static void meetsOnFirstAndLastCell() {
+        Hand.at("he MEETS the HUNT in an HOUR in which both are on one CELL: the first and the last CELL like any other");
+        String[] lands = {
+            "land 3 by 2 hunt 1 0;rides 7;walker a from 0 0 to 0 0 does 2;",
+            "land 3 by 2 hunt 1 1;walker a from 2 1 to 2 1 does 2;",
+        };
+        for (String land : lands) {
+            WildHunt x = Hand.over(land);
+            due("meets, " + land, x.meets(0), 1);
+            due("later, " + land, x.later(3, 0), 3);
+            due("first, " + land, x.first(0), 1);
+            due("nights, " + land, x.nights(2), 2);
+            due("chance, " + land, x.chance(2), 0);
+            due("told, " + land, x.has(9), 4);
+            due("HOUR of the last one, " + land, x.told(3, 1), 1);
+        }
     }
 
     private static void liesDown() {
