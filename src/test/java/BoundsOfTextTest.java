@@ -571,6 +571,19 @@ public final class BoundsOfTextTest {
         asksWrong(1, "often 1=1^or 1=1");
         asksWrong(1, "total near^1");
         asksWrong(1, "total^1");
+        // A number that is a sign's byte stands for no sign: 59 ; 43 + 45 - 42 * 47 / 41 ) 44 , 60 < 61 = 62 > 93 ]
+        faulty(1, TWO + "year 59^year 5;");
+        for (int sign : new int[] {'+', '-', '*', '/'}) {
+            faulty(1, TWO + "rides " + sign + "^hour;");
+            asksWrong(1, "total " + sign + "^row");
+        }
+        for (int sign : new int[] {'<', '=', '>'}) {
+            faulty(1, TWO + "keeps " + sign + "^hour;");
+            asksWrong(1, "often " + sign + "^row");
+        }
+        faulty(1, TWO + "rides min(44^hour);");
+        faulty(1, TWO + "rides (41^hour;");
+        faulty(1, TWO + "keeps [1=93^and all;");
         // A sign between them is enough.
         good(2, TWO + "keeps[1=1]and[hour=1]or(1)<2 and 1=1;");
     }
